@@ -354,7 +354,8 @@ public final class RoundVotes {
         Message message = node.outgoing;
         int value = message.value;
         int other = message.otherValue();
-        for (int pass = 0; pass < node.timesSending(); pass++) {
+        int times = node.timesSending();
+        for (int pass = 0; pass < times; pass++) {
             for (int to = 0; to < setup.size; to++) {
                 if (to != node.number) {
                     message.receiver = to;
@@ -704,7 +705,8 @@ public final class RoundVotes {
             lastCutTurn = 0;
             present.clear();
             next.clear();
-            for (int r = 0; r <= signed.topRound; r++) {
+            int top = signed.topRound;
+            for (int r = 0; r <= top; r++) {
                 for (int kind = 0; kind < KINDS; kind++) {
                     if (signed.holds(r, 0, kind)) {
                         present.put(r, number, kind, signed.valueOf(r, 0, kind), signed.sinceOf(r));
@@ -782,7 +784,8 @@ public final class RoundVotes {
 
         /** Rule A: the least round whose proposal many precommitted. */
         private int roundToDecide() {
-            for (int r = 0; r <= present.topRound; r++) {
+            int top = present.topRound;
+            for (int r = 0; r <= top; r++) {
                 int value = proposalOf(r);
                 if (value != NONE && areMany(present.votersFor(r, PRECOMMIT, value))) {
                     return r;

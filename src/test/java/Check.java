@@ -11,6 +11,11 @@ final class Check {
         }
     }
 
+    /** The own value of a node for a height and a round, by the document's formula. */
+    static int own(int seed, int node, int height, int round) {
+        return 2 + 2 * ((seed ^ (7919 * node) ^ (104729 * height) ^ (1299709 * round)) & ((1 << 20) - 1));
+    }
+
     boolean hasWrong() {
         return wrong > 0;
     }

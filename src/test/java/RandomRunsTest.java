@@ -2,7 +2,7 @@ import java.util.Random;
 
 /** Random runs of calls on RoundVotes and on the plain model, whose answers must be alike. */
 public final class RandomRunsTest {
-    private static final int RUNS = 1500;
+    private static final int RUNS = 500;
     private static final int CALLS = 512;
     private final Check check = new Check();
     private final int run;

@@ -1,0 +1,44 @@
+/** Promise 1: a new object has 1 to 10 nodes of weight 1, a seed, and time 0. */
+public final class NewObjectTest {
+    private static final Check CHECK = new Check();
+
+    private static void hasNodes(int wanted, int nodes) {
+        RoundVotes x = new RoundVotes(wanted, 5);
+        String of = "new RoundVotes(" + wanted + ", 5).";
+        CHECK.due(of + "count(6)", x.count(6), nodes);
+        CHECK.due(of + "count(7)", x.count(7), nodes);
+        CHECK.due(of + "count(0)", x.count(0), 0);
+        CHECK.due(of + "node(last, 0)", x.node(nodes - 1, 0), 1);
+        CHECK.due(of + "node(behind the last, 0)", x.node(nodes, 0), RoundVotes.BAD);
+        for (int i = 0; i < nodes; i++) {
+            CHECK.due(of + "weightOf(" + i + ", 1)", x.weightOf(i, 1), 1);
+            CHECK.due(of + "weightOf(" + i + ", 40)", x.weightOf(i, 40), 1);
+        }
+    }
+
+    private static void usesSeed(int seed) {
+        RoundVotes x = new RoundVotes(3, seed);
+        x.turn(1);
+        CHECK.due("vote(1, 0, 1, 0) of seed " + seed, x.vote(1, 0, 1, 0), Check.own(seed, 1, 1, 0));
+    }
+
+    public static void main(String[] args) {
+        for (int n = 1; n <= 10; n++) {
+            hasNodes(n, n);
+        }
+        hasNodes(0, 1);
+        hasNodes(-1, 1);
+        hasNodes(Integer.MIN_VALUE, 1);
+        hasNodes(11, 10);
+        hasNodes(Integer.MAX_VALUE, 10);
+        usesSeed(0);
+        usesSeed(7);
+        usesSeed(-5);
+        usesSeed(Integer.MIN_VALUE);
+        usesSeed(Integer.MAX_VALUE);
+        CHECK.due("BAD", RoundVotes.BAD, -1);
+        CHECK.due("NONE", RoundVotes.NONE, -2);
+        CHECK.due("FULL", RoundVotes.FULL, -3);
+        CHECK.finish();
+    }
+}

@@ -1,0 +1,147 @@
+/** Promise 7: turn, and how rules and timers go in turns. */
+public final class TurnTest {
+    private static final Check CHECK = new Check();
+    private static final int SEED = 7;
+    private static final int VALUE = Check.own(SEED, 1, 1, 0);
+
+    private static void answers() {
+        RoundVotes x = new RoundVotes(4, SEED);
+        CHECK.due("turn(0)", x.turn(0), RoundVotes.BAD);
+        CHECK.due("turn(-1)", x.turn(-1), RoundVotes.BAD);
+        CHECK.due("turn(101)", x.turn(101), RoundVotes.BAD);
+        CHECK.due("count(0)", x.count(0), 0);
+        CHECK.due("turn(1)", x.turn(1), 1);
+        CHECK.due("turn(100)", x.turn(100), 101);
+        CHECK.due("turn(101)", x.turn(101), RoundVotes.BAD);
+        CHECK.due("turn(1)", x.turn(1), 102);
+    }
+
+    private static void ordinaryHeight() {
+        RoundVotes x = new RoundVotes(4, SEED);
+        int[] steps = {0, 1, 2, 0};
+        int[] heights = {1, 1, 1, 2};
+        for (int k = 0; k < 4; k++) {
+            x.turn(1);
+            CHECK.due("node(0, 0) in turn " + (k + 1), x.node(0, 0), heights[k]);
+            CHECK.due("node(0, 2) in turn " + (k + 1), x.node(0, 2), steps[k]);
+        }
+        CHECK.due("decided(0, 1, 0)", x.decided(0, 1, 0), VALUE);
+        CHECK.due("node(0, 9), timer P anew", x.node(0, 9), 8);
+    }
+
+    private static void oneNodeDecidesAllAtOnce() {
+        RoundVotes x = new RoundVotes(1, SEED);
+        x.turn(1);
+        for (int h = 1; h <= 40; h++) {
+            CHECK.due("decided(0, " + h + ", 0)", x.decided(0, h, 0), Check.own(SEED, 0, h, 0));
+        }
+        CHECK.due("node(0, 0)", x.node(0, 0), 41);
+        CHECK.due("count(1)", x.count(1), 0);
+    }
+
+    /** All vote NIL: rule E in turn 3, rule G in turn 4, and each round takes one turn more. */
+    private static void roundsOfNil() {
+        RoundVotes x = new RoundVotes(4, SEED);
+        for (int i = 0; i < 4; i++) {
+            x.behave(i, 5);
+        }
+        x.turn(3);
+        CHECK.due("node(0, 2) in turn 3", x.node(0, 2), 2);
+        CHECK.due("vote(0, 0, 0, 2) in turn 3", x.vote(0, 0, 0, 2), 0);
+        CHECK.due("node(0, 11) in turn 3", x.node(0, 11), 0);
+        x.turn(1);
+        CHECK.due("node(0, 11) in turn 4", x.node(0, 11), 7);
+        x.turn(2);
+        CHECK.due("node(0, 1) in turn 6", x.node(0, 1), 0);
+        CHECK.due("node(0, 9), timer P has ended", x.node(0, 9), 0);
+        x.turn(1);
+        CHECK.due("node(0, 1) in turn 7", x.node(0, 1), 1);
+        CHECK.due("node(0, 2) in turn 7", x.node(0, 2), 0);
+        CHECK.due("node(0, 9) in turn 7", x.node(0, 9), 12);
+        CHECK.due("node(0, 11) in turn 7", x.node(0, 11), 0);
+        CHECK.due("vote(2, 1, 2, 0), proposer of round 1", x.vote(2, 1, 2, 0), Check.own(SEED, 2, 1, 1));
+        x.turn(3);
+        CHECK.due("node(0, 11) in turn 10", x.node(0, 11), 14);
+        for (int k = 0; k < 8; k++) {
+            x.turn(100);
+        }
+        for (int i = 0; i < 4; i++) {
+            CHECK.due("node(" + i + ", 1), the last round", x.node(i, 1), 29);
+            CHECK.due("node(" + i + ", 2), the last round", x.node(i, 2), 2);
+            CHECK.due("node(" + i + ", 11), the last round", x.node(i, 11), 0);
+        }
+        CHECK.due("count(5)", x.count(5), 0);
+    }
+
+    /** Three of four prevote unlike: timer V, set by rule F, ends in a precommit for NIL. */
+    private static void timerV() {
+        RoundVotes x = new RoundVotes(4, SEED);
+        x.behave(0, 5);
+        x.behave(3, 1);
+        x.turn(3);
+        CHECK.due("node(1, 2) in turn 3", x.node(1, 2), 1);
+        CHECK.due("node(1, 10) in turn 3", x.node(1, 10), 6);
+        x.turn(2);
+        CHECK.due("node(1, 2) in turn 5", x.node(1, 2), 1);
+        x.turn(1);
+        CHECK.due("node(1, 2) in turn 6", x.node(1, 2), 2);
+        CHECK.due("node(1, 10) in turn 6", x.node(1, 10), 0);
+        CHECK.due("vote(1, 0, 1, 2) in turn 6", x.vote(1, 0, 1, 2), 0);
+    }
+
+    /** Nodes 0 and 3 precommit NIL, so the locked value is proposed again as valid since round 0. */
+    private static RoundVotes valueLockedWithoutDecision() {
+        RoundVotes x = new RoundVotes(4, SEED);
+        x.turn(2);
+        x.behave(0, 5);
+        x.behave(3, 5);
+        x.turn(2);
+        return x;
+    }
+
+    private static void validIsProposedAgain() {
+        RoundVotes x = valueLockedWithoutDecision();
+        CHECK.due("node(1, 11) in turn 4", x.node(1, 11), 7);
+        CHECK.due("count(5) in turn 4", x.count(5), 0);
+        x.behave(0, 0);
+        x.behave(3, 0);
+        x.turn(3);
+        CHECK.due("vote(2, 1, 2, 0)", x.vote(2, 1, 2, 0), VALUE);
+        CHECK.due("vote(2, 1, 2, 3)", x.vote(2, 1, 2, 3), 0);
+        x.turn(1);
+        CHECK.due("vote(0, 1, 2, 3)", x.vote(0, 1, 2, 3), 0);
+        CHECK.due("vote(0, 1, 0, 1)", x.vote(0, 1, 0, 1), VALUE);
+        x.turn(2);
+        CHECK.due("decided(0, 1, 0)", x.decided(0, 1, 0), VALUE);
+        CHECK.due("decided(0, 1, 1)", x.decided(0, 1, 1), 1);
+    }
+
+    /** Node 3 is cut through round 0 and joins round 1 by rule B, when messages of two others have come. */
+    private static void joinsALaterRound() {
+        RoundVotes x = new RoundVotes(4, SEED);
+        for (int i = 0; i < 4; i++) {
+            x.behave(i, 5);
+        }
+        x.turn(1);
+        x.cut(3, 5);
+        x.turn(6);
+        CHECK.due("node(0, 1) in turn 7", x.node(0, 1), 1);
+        CHECK.due("node(3, 1) in turn 7", x.node(3, 1), 0);
+        x.turn(1);
+        CHECK.due("node(3, 1) in turn 8, of one node", x.node(3, 1), 0);
+        x.turn(1);
+        CHECK.due("node(3, 1) in turn 9, of more", x.node(3, 1), 1);
+        CHECK.due("node(3, 9) in turn 9", x.node(3, 9), 14);
+    }
+
+    public static void main(String[] args) {
+        answers();
+        ordinaryHeight();
+        oneNodeDecidesAllAtOnce();
+        roundsOfNil();
+        timerV();
+        validIsProposedAgain();
+        joinsALaterRound();
+        CHECK.finish();
+    }
+}

@@ -1,0 +1,90 @@
+/** Promises 2 and 16: weight and weightOf. */
+public final class WeightTest {
+    private static final Check CHECK = new Check();
+
+    private static void wrongInputs() {
+        RoundVotes x = new RoundVotes(4, 1);
+        CHECK.due("weight(-1, 1)", x.weight(-1, 1), RoundVotes.BAD);
+        CHECK.due("weight(4, 1)", x.weight(4, 1), RoundVotes.BAD);
+        CHECK.due("weight(0, 0)", x.weight(0, 0), RoundVotes.BAD);
+        CHECK.due("weight(0, -1)", x.weight(0, -1), RoundVotes.BAD);
+        CHECK.due("weight(0, 1000001)", x.weight(0, 1_000_001), RoundVotes.BAD);
+        CHECK.due("weightOf(-1, 1) behind BAD calls", x.weightOf(-1, 1), 4);
+        CHECK.due("weightOf(-2, 1)", x.weightOf(-2, 1), RoundVotes.BAD);
+        CHECK.due("weightOf(4, 1)", x.weightOf(4, 1), RoundVotes.BAD);
+        CHECK.due("weightOf(0, 0)", x.weightOf(0, 0), RoundVotes.BAD);
+        CHECK.due("weightOf(0, 41)", x.weightOf(0, 41), RoundVotes.BAD);
+        CHECK.due("weightOf(-1, 41)", x.weightOf(-1, 41), RoundVotes.BAD);
+    }
+
+    private static void aheadOfTheFirstTurn() {
+        RoundVotes x = new RoundVotes(10, 1);
+        for (int i = 0; i < 10; i++) {
+            CHECK.due("weight(" + i + ", 1000000)", x.weight(i, 1_000_000), 1);
+        }
+        CHECK.due("weightOf(-1, 1)", x.weightOf(-1, 1), 10_000_000);
+        CHECK.due("weightOf(-1, 40)", x.weightOf(-1, 40), 10_000_000);
+        CHECK.due("count(7)", x.count(7), 10_000_000);
+        CHECK.due("weight(3, 2)", x.weight(3, 2), 1);
+        CHECK.due("weightOf(3, 1)", x.weightOf(3, 1), 2);
+        CHECK.due("weightOf(-1, 1)", x.weightOf(-1, 1), 9_000_002);
+    }
+
+    /** Nodes of heavy weights decide as those of light ones do. */
+    private static void manyOfGreatWeights() {
+        RoundVotes x = new RoundVotes(10, 1);
+        for (int i = 0; i < 10; i++) {
+            x.weight(i, 1_000_000);
+        }
+        x.turn(5);
+        CHECK.due("decided(0, 1, 3)", x.decided(0, 1, 3), 7_000_000);
+    }
+
+    private static void whileTurnsGo() {
+        RoundVotes x = new RoundVotes(4, 7);
+        x.turn(1);
+        CHECK.due("weight(2, 5) in height 1", x.weight(2, 5), 2);
+        CHECK.due("weightOf(2, 1)", x.weightOf(2, 1), 1);
+        CHECK.due("weightOf(2, 2)", x.weightOf(2, 2), 5);
+        CHECK.due("weightOf(-1, 2)", x.weightOf(-1, 2), 8);
+        CHECK.due("weightOf(-1, 40)", x.weightOf(-1, 40), 8);
+        CHECK.due("count(7) is of height 1", x.count(7), 4);
+        x.turn(3);
+        CHECK.due("weight(2, 9) in height 2", x.weight(2, 9), 3);
+        CHECK.due("weightOf(2, 2)", x.weightOf(2, 2), 5);
+        CHECK.due("weightOf(2, 3)", x.weightOf(2, 3), 9);
+    }
+
+    /** Behind the last height there is none whose weights could change. */
+    private static void behindTheLastHeight() {
+        RoundVotes x = new RoundVotes(1, 7);
+        x.turn(1);
+        CHECK.due("weight(0, 5)", x.weight(0, 5), 42);
+        CHECK.due("weightOf(0, 40)", x.weightOf(0, 40), 1);
+    }
+
+    /** Exactly two thirds are not many, and one unit more is. */
+    private static void edgeOfMany() {
+        RoundVotes even = new RoundVotes(3, 7);
+        even.behave(0, 1);
+        even.turn(30);
+        CHECK.due("count(5), 2 of 3", even.count(5), 0);
+        RoundVotes more = new RoundVotes(3, 7);
+        more.behave(0, 1);
+        more.weight(1, 3);
+        more.weight(2, 2);
+        more.weight(0, 2);
+        more.turn(30);
+        CHECK.due("decided(1, 1, 3), 5 of 7", more.decided(1, 1, 3), 5);
+    }
+
+    public static void main(String[] args) {
+        wrongInputs();
+        aheadOfTheFirstTurn();
+        manyOfGreatWeights();
+        whileTurnsGo();
+        behindTheLastHeight();
+        edgeOfMany();
+        CHECK.finish();
+    }
+}
