@@ -62,6 +62,8 @@ public final class TurnTest {
         CHECK.due("vote(2, 1, 2, 0), proposer of round 1", x.vote(2, 1, 2, 0), Check.own(SEED, 2, 1, 1));
         x.turn(3);
         CHECK.due("node(0, 11) in turn 10", x.node(0, 11), 14);
+        x.turn(4);
+        CHECK.due("vote(3, 2, 3, 0), proposer of round 2", x.vote(3, 2, 3, 0), Check.own(SEED, 3, 1, 2));
         for (int k = 0; k < 8; k++) {
             x.turn(100);
         }
@@ -116,22 +118,55 @@ public final class TurnTest {
         CHECK.due("decided(0, 1, 1)", x.decided(0, 1, 1), 1);
     }
 
-    /** Node 3 is cut through round 0 and joins round 1 by rule B, when messages of two others have come. */
-    private static void joinsALaterRound() {
+    /** Node 3 is cut through round 0, in which the others vote NIL. */
+    private static RoundVotes nodeThreeLeftInRoundZero(int weightOfTwo) {
         RoundVotes x = new RoundVotes(4, SEED);
+        int[] weights = {3, 3, weightOfTwo, 2};
         for (int i = 0; i < 4; i++) {
+            x.weight(i, weights[i]);
             x.behave(i, 5);
         }
         x.turn(1);
         x.cut(3, 5);
-        x.turn(6);
+        x.turn(5);
+        return x;
+    }
+
+    /** It joins round 1 by rule B, not when messages of one third of the weights have come, but of more. */
+    private static void joinsALaterRound() {
+        RoundVotes x = nodeThreeLeftInRoundZero(4);
+        x.turn(1);
         CHECK.due("node(0, 1) in turn 7", x.node(0, 1), 1);
         CHECK.due("node(3, 1) in turn 7", x.node(3, 1), 0);
         x.turn(1);
-        CHECK.due("node(3, 1) in turn 8, of one node", x.node(3, 1), 0);
+        CHECK.due("vote(3, 1, 2, 1) in turn 8", x.vote(3, 1, 2, 1), 0);
+        CHECK.due("node(3, 1) in turn 8, of one third", x.node(3, 1), 0);
         x.turn(1);
         CHECK.due("node(3, 1) in turn 9, of more", x.node(3, 1), 1);
         CHECK.due("node(3, 9) in turn 9", x.node(3, 9), 14);
+    }
+
+    /** A proposal alone is enough, where its sender weighs enough: its prevote to node 3 is lost. */
+    private static void joinsByAProposal() {
+        RoundVotes x = nodeThreeLeftInRoundZero(5);
+        x.disturb(x.count(1) + 5, 0, 0);
+        x.turn(2);
+        CHECK.due("vote(3, 1, 2, 0) in turn 8", x.vote(3, 1, 2, 0), Check.own(SEED, 2, 1, 1));
+        CHECK.due("vote(3, 1, 2, 1) in turn 8", x.vote(3, 1, 2, 1), RoundVotes.NONE);
+        CHECK.due("node(3, 1) in turn 8", x.node(3, 1), 1);
+    }
+
+    /** The late proposal comes in turn 5, in which timer P would end in a prevote for NIL. */
+    private static void copiesComeAheadOfTimers() {
+        RoundVotes x = new RoundVotes(4, SEED);
+        x.behave(2, 1);
+        x.behave(3, 1);
+        x.disturb(0, 2, 3);
+        x.turn(4);
+        CHECK.due("node(0, 2) in turn 4", x.node(0, 2), 0);
+        x.turn(1);
+        CHECK.due("vote(0, 0, 0, 1) in turn 5", x.vote(0, 0, 0, 1), VALUE);
+        CHECK.due("node(0, 9) in turn 5", x.node(0, 9), 0);
     }
 
     public static void main(String[] args) {
@@ -142,6 +177,8 @@ public final class TurnTest {
         timerV();
         validIsProposedAgain();
         joinsALaterRound();
+        joinsByAProposal();
+        copiesComeAheadOfTimers();
         CHECK.finish();
     }
 }

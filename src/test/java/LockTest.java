@@ -1,0 +1,79 @@
+/** Rule C with a lock: a value that is valid since the very round of the lock is prevoted, though another one is locked. */
+public final class LockTest {
+    private static final Check CHECK = new Check();
+    private static final int SEED = 7;
+    private static final int VALUE = Check.own(SEED, 1, 1, 0);
+    private static final int LOST = 0, LATE = 2;
+
+    /**
+     * Nodes 0 (weight 5, forgetful), 1 and 2 (3 each); node 0 with either of the others is many. Node 1 proposes
+     * unlike values in round 0: it locks the first one with node 0, and node 2 the other one, once node 0 was cut
+     * and has forgotten its vote.
+     */
+    private static RoundVotes twoLocksOfOneRound() {
+        RoundVotes x = new RoundVotes(3, SEED);
+        x.weight(0, 5);
+        x.weight(1, 3);
+        x.weight(2, 3);
+        x.behave(0, 4);
+        x.behave(1, 3);
+        for (int lost : new int[] {1, 9, 12, 13, 15, 18, 19, 20, 21}) {
+            x.disturb(lost, LOST, 0);
+        }
+        x.disturb(2, LATE, 4);
+        x.disturb(10, LATE, 4);
+        x.disturb(11, LATE, 20);
+        x.disturb(14, LATE, 4);
+        x.disturb(16, LATE, 16);
+        x.disturb(25, LATE, 5);
+        x.turn(1);
+        x.behave(1, 0);
+        x.turn(2);
+        x.cut(0, 1);
+        x.turn(4);
+        return x;
+    }
+
+    private static void lockOfTheSameRoundGivesWay() {
+        RoundVotes x = twoLocksOfOneRound();
+        CHECK.due("node(1, 3), the first value", x.node(1, 3), VALUE);
+        CHECK.due("node(1, 4)", x.node(1, 4), 0);
+        CHECK.due("node(2, 3), the other value", x.node(2, 3), VALUE + 1);
+        CHECK.due("node(0, 3), locked anew", x.node(0, 3), VALUE + 1);
+        x.turn(10);
+        CHECK.due("node(1, 1) in turn 17", x.node(1, 1), 1);
+        CHECK.due("vote(2, 1, 2, 0), proposed again", x.vote(2, 1, 2, 0), VALUE + 1);
+        CHECK.due("vote(2, 1, 2, 3), since round 0", x.vote(2, 1, 2, 3), 0);
+        x.cut(1, 4);
+        x.turn(5);
+        CHECK.due("node(1, 2) in turn 22", x.node(1, 2), 0);
+        x.turn(1);
+        CHECK.due("vote(1, 1, 1, 1) in turn 23", x.vote(1, 1, 1, 1), VALUE + 1);
+        CHECK.due("node(1, 3), still locked", x.node(1, 3), VALUE);
+    }
+
+    /**
+     * A forgetful proposer whose value is valid since this very round proposes it with this round, which rule C
+     * does not take, though many prevoted it: timer P ends in turn 10.
+     */
+    private static void proposalOfItsOwnRoundIsNotAnswered() {
+        RoundVotes x = new RoundVotes(4, SEED);
+        x.behave(1, 4);
+        x.turn(3);
+        x.cut(0, 1);
+        x.cut(1, 2);
+        x.cut(2, 1);
+        x.cut(3, 1);
+        x.turn(7);
+        CHECK.due("vote(1, 0, 1, 3)", x.vote(1, 0, 1, 3), 0);
+        CHECK.due("vote(1, 0, 0, 1), sent again", x.vote(1, 0, 0, 1), VALUE);
+        CHECK.due("vote(1, 0, 1, 1), NIL by timer P", x.vote(1, 0, 1, 1), 0);
+        CHECK.due("vote(1, 0, 1, 2), by rule D", x.vote(1, 0, 1, 2), VALUE);
+    }
+
+    public static void main(String[] args) {
+        lockOfTheSameRoundGivesWay();
+        proposalOfItsOwnRoundIsNotAnswered();
+        CHECK.finish();
+    }
+}
