@@ -333,7 +333,7 @@ public final class RoundVotes {
         }
     }
 
-    /** Follows the rules till none goes; what a rule made the node send goes before the next rule. A node that is cut does nothing. */
+    /** Follows the rules till none goes; what one made the node send goes before the next. A node that is cut does nothing. */
     private void settle(Node node) {
         if (node.isCut()) {
             return;
@@ -387,8 +387,8 @@ public final class RoundVotes {
     }
 
     private boolean areOnUnlikeSides(int a, int b) {
-        boolean last = time >= firstSideTurn && time <= lastSideTurn;
-        return last && ((sideBits >> a) & 1) != ((sideBits >> b) & 1);
+        boolean sidesLast = time >= firstSideTurn && time <= lastSideTurn;
+        return sidesLast && ((sideBits >> a) & 1) != ((sideBits >> b) & 1);
     }
 
     /** What all nodes share: how many they are, the seed, and the weights of each height. */
