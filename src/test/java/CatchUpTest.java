@@ -72,6 +72,18 @@ public final class CatchUpTest {
         return x;
     }
 
+    /** Nodes 0 and 1 decide of unlike voters, and node 0 is the least of all. */
+    private static void asksNodeZero() {
+        RoundVotes x = new RoundVotes(4, SEED);
+        x.turn(3);
+        x.cut(3, 1);
+        x.turn(2);
+        CHECK.due("decided(0, 1, 2)", x.decided(0, 1, 2), 13);
+        CHECK.due("decided(1, 1, 2)", x.decided(1, 1, 2), 14);
+        CHECK.due("catchUp(3)", x.catchUp(3), 1);
+        CHECK.due("decided(3, 1, 2), of node 0", x.decided(3, 1, 2), 13);
+    }
+
     private static void proposesWhenItIsTheProposer() {
         RoundVotes x = new RoundVotes(4, SEED);
         x.turn(1);
@@ -119,6 +131,7 @@ public final class CatchUpTest {
         takesWhatOthersDecided();
         asksNoneThatIsCut();
         asksTheLeast();
+        asksNodeZero();
         proposesWhenItIsTheProposer();
         keptMessagesCount();
         upToTheLastHeight();

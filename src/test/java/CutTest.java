@@ -95,7 +95,125 @@ public final class CutTest {
         CHECK.due("node(0, 9)", x.node(0, 9), 0);
     }
 
+    /** Cut for one turn: 1 turn still, then 0 though it is cut till the next one, then 0 as it is back. */
+    private static void cutForOneTurn() {
+        RoundVotes x = new RoundVotes(4, SEED);
+        x.turn(1);
+        CHECK.due("node(0, 7), not cut", x.node(0, 7), 0);
+        CHECK.due("cut(0, 1)", x.cut(0, 1), 1);
+        CHECK.due("node(0, 7), cut for 1", x.node(0, 7), 1);
+        x.turn(1);
+        CHECK.due("node(0, 7), it comes back with the next turn", x.node(0, 7), 0);
+        CHECK.due("cut(0, 1), it comes back with the next turn", x.cut(0, 1), RoundVotes.NONE);
+        CHECK.due("count(3), proposal and prevote of node 1", x.count(3), 2);
+        CHECK.due("vote(0, 0, 1, 0) in turn 2", x.vote(0, 0, 1, 0), RoundVotes.NONE);
+        x.turn(1);
+        CHECK.due("node(0, 7), back", x.node(0, 7), 0);
+        CHECK.due("node(0, 9), back", x.node(0, 9), 7);
+        CHECK.due("vote(0, 0, 2, 1), it came in the turn in which it is back", x.vote(0, 0, 2, 1), VALUE);
+        CHECK.due("count(3)", x.count(3), 2);
+        CHECK.due("cut(0, 1), back", x.cut(0, 1), 1);
+    }
+
+    /**
+     * Node 0 is cut from turn 2 to turn 51. Node 1, cut too, comes back in a given turn and proposes in it again; that
+     * comes to node 0 in the next turn.
+     */
+    private static RoundVotes proposedAgainInTurn(int turn) {
+        RoundVotes x = new RoundVotes(2, SEED);
+        x.behave(0, 1);
+        x.turn(1);
+        CHECK.due("cut(0, 50)", x.cut(0, 50), 1);
+        x.turn(turn - 3);
+        x.cut(1, 1);
+        x.turn(3);
+        return x;
+    }
+
+    private static void lastTurnOfFifty() {
+        RoundVotes inside = proposedAgainInTurn(50);
+        CHECK.due("count(0)", inside.count(0), 51);
+        CHECK.due("node(0, 7) in turn 51", inside.node(0, 7), 0);
+        CHECK.due("count(3) in turn 51", inside.count(3), 4);
+        inside.turn(1);
+        CHECK.due("vote(0, 0, 1, 0) in turn 52", inside.vote(0, 0, 1, 0), RoundVotes.NONE);
+        CHECK.due("node(0, 9) in turn 52, back", inside.node(0, 9), 56);
+        RoundVotes outside = proposedAgainInTurn(51);
+        CHECK.due("count(0)", outside.count(0), 52);
+        CHECK.due("count(3) in turn 52", outside.count(3), 2);
+        CHECK.due("vote(0, 0, 1, 0) in turn 52", outside.vote(0, 0, 1, 0), VALUE);
+    }
+
+    /** What a node sent ahead of its cut is under way still. */
+    private static void whatItSentComes() {
+        RoundVotes x = new RoundVotes(4, SEED);
+        x.turn(1);
+        x.cut(1, 50);
+        x.turn(1);
+        CHECK.due("count(2)", x.count(2), 6);
+        CHECK.due("vote(0, 0, 1, 0)", x.vote(0, 0, 1, 0), VALUE);
+        CHECK.due("count(3)", x.count(3), 0);
+    }
+
+    /** Its value became valid in round 0; what it sends again is the proposal that it signed, with - 1. */
+    private static void proposalAgainAsItWasSigned() {
+        RoundVotes x = new RoundVotes(4, SEED);
+        x.turn(3);
+        CHECK.due("node(1, 6) in turn 3", x.node(1, 6), 0);
+        x.cut(0, 1);
+        x.cut(1, 1);
+        x.turn(3);
+        CHECK.due("vote(0, 0, 1, 0) in turn 6", x.vote(0, 0, 1, 0), VALUE);
+        CHECK.due("vote(0, 0, 1, 3) in turn 6", x.vote(0, 0, 1, 3), -1);
+        CHECK.due("vote(1, 0, 1, 3) in turn 6", x.vote(1, 0, 1, 3), -1);
+    }
+
+    /** Node 1 proposed in round 0 and is in round 1 when it is cut: that counts for it again, what others sent does not. */
+    private static void whatItSignedInAnEarlierRound() {
+        RoundVotes x = new RoundVotes(4, SEED);
+        for (int i = 0; i < 4; i++) {
+            x.behave(i, 5);
+        }
+        x.turn(7);
+        CHECK.due("vote(1, 0, 0, 1) in turn 7", x.vote(1, 0, 0, 1), 0);
+        x.cut(1, 1);
+        x.turn(2);
+        CHECK.due("node(1, 1) in turn 9", x.node(1, 1), 1);
+        CHECK.due("vote(1, 0, 1, 0) in turn 9", x.vote(1, 0, 1, 0), VALUE);
+        CHECK.due("vote(1, 0, 1, 3) in turn 9", x.vote(1, 0, 1, 3), -1);
+        CHECK.due("vote(1, 0, 1, 1) in turn 9", x.vote(1, 0, 1, 1), 0);
+        CHECK.due("vote(1, 0, 1, 2) in turn 9", x.vote(1, 0, 1, 2), 0);
+        CHECK.due("vote(1, 0, 0, 1) in turn 9, forgotten", x.vote(1, 0, 0, 1), RoundVotes.NONE);
+    }
+
+    /**
+     * Node 0 is back in turn 5, in height 1, and keeps what node 2 sends in height 2; cut again it forgets that. The
+     * others precommit NIL in turn 6, which comes when it is back again.
+     */
+    private static void forgetsWhatItKeptForTheNextHeight() {
+        RoundVotes x = new RoundVotes(4, SEED);
+        x.turn(1);
+        x.cut(0, 3);
+        x.turn(4);
+        x.cut(0, 1);
+        for (int i = 1; i < 4; i++) {
+            x.behave(i, 5);
+        }
+        x.turn(2);
+        CHECK.due("catchUp(0) in turn 7", x.catchUp(0), 1);
+        CHECK.due("vote(0, 0, 2, 0), forgotten", x.vote(0, 0, 2, 0), RoundVotes.NONE);
+        CHECK.due("vote(0, 0, 2, 3), forgotten", x.vote(0, 0, 2, 3), -9);
+        CHECK.due("vote(0, 0, 2, 1), forgotten", x.vote(0, 0, 2, 1), RoundVotes.NONE);
+        CHECK.due("vote(0, 0, 2, 2), came in turn 7", x.vote(0, 0, 2, 2), 0);
+    }
+
     public static void main(String[] args) {
+        proposalAgainAsItWasSigned();
+        whatItSignedInAnEarlierRound();
+        forgetsWhatItKeptForTheNextHeight();
+        cutForOneTurn();
+        lastTurnOfFifty();
+        whatItSentComes();
         wrongInputs();
         keepsWhatItSigned();
         sendsItsProposalAgain();

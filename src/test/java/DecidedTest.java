@@ -63,6 +63,31 @@ public final class DecidedTest {
         CHECK.due("unlike(1)", x.unlike(1), 0);
     }
 
+    /**
+     * Node 1 weighs 5 and is forgetful. Node 0 decides its value in round 0, of what node 1 precommits; node 2 does not
+     * get that proposal, and node 1 not node 0's precommit, so these two decide node 2's value in round 1.
+     */
+    private static void nodeZeroAloneDecidedAnother() {
+        RoundVotes x = new RoundVotes(3, SEED);
+        x.weight(0, 3);
+        x.weight(1, 5);
+        x.weight(2, 3);
+        x.behave(1, 4);
+        x.disturb(1, 0, 0);
+        x.disturb(6, 0, 0);
+        x.disturb(9, 2, 4);
+        x.turn(12);
+        CHECK.due("decided(0, 1, 0) in turn 12", x.decided(0, 1, 0), Check.own(SEED, 1, 1, 0));
+        CHECK.due("decided(1, 1, 0) in turn 12", x.decided(1, 1, 0), RoundVotes.NONE);
+        CHECK.due("unlike(1) in turn 12", x.unlike(1), 0);
+        x.turn(1);
+        CHECK.due("decided(2, 1, 0) in turn 13", x.decided(2, 1, 0), Check.own(SEED, 2, 1, 1));
+        CHECK.due("unlike(1) in turn 13", x.unlike(1), 1);
+        x.turn(1);
+        CHECK.due("decided(1, 1, 0) in turn 14", x.decided(1, 1, 0), Check.own(SEED, 2, 1, 1));
+        CHECK.due("unlike(1) in turn 14", x.unlike(1), 1);
+    }
+
     private static void weightsAreOfTheHeight() {
         RoundVotes x = new RoundVotes(4, SEED);
         x.turn(5);
@@ -74,6 +99,7 @@ public final class DecidedTest {
     public static void main(String[] args) {
         forgetfulNodeTearsAHeight();
         lockedNodeDoesNot();
+        nodeZeroAloneDecidedAnother();
         weightsAreOfTheHeight();
         CHECK.finish();
     }

@@ -1,4 +1,7 @@
-/** Rule C with a lock: a value that is valid since the very round of the lock is prevoted, though another one is locked. */
+/**
+ * Rule C with a lock: though another value is locked, one that is valid since the very round of the lock is prevoted, and
+ * one that is valid since a round ahead of it is not.
+ */
 public final class LockTest {
     private static final Check CHECK = new Check();
     private static final int SEED = 7;
@@ -53,6 +56,32 @@ public final class LockTest {
     }
 
     /**
+     * The same weights. Nodes 0 and 1 lock node 1's value in round 0, of which node 2 gets the prevotes alone; node 2
+     * locks its own value in round 1 with node 0's prevote, of which node 0 gets no prevote. In round 2 node 0 proposes
+     * what is valid since round 0.
+     */
+    private static void lockOfALaterRoundStands() {
+        RoundVotes x = new RoundVotes(3, SEED);
+        x.weight(0, 5);
+        x.weight(1, 3);
+        x.weight(2, 3);
+        x.behave(0, 4);
+        for (int lost : new int[] {1, 6, 8, 9, 16, 17}) {
+            x.disturb(lost, LOST, 0);
+        }
+        x.turn(22);
+        CHECK.due("node(2, 3) in turn 22, its own value", x.node(2, 3), Check.own(SEED, 2, 1, 1));
+        CHECK.due("node(2, 4) in turn 22", x.node(2, 4), 1);
+        x.turn(1);
+        CHECK.due("vote(2, 2, 0, 0) in turn 23", x.vote(2, 2, 0, 0), VALUE);
+        CHECK.due("vote(2, 2, 0, 3) in turn 23", x.vote(2, 2, 0, 3), 0);
+        CHECK.due("vote(2, 0, 0, 1), of MANY", x.vote(2, 0, 0, 1), VALUE);
+        CHECK.due("vote(2, 0, 1, 1), of MANY", x.vote(2, 0, 1, 1), VALUE);
+        CHECK.due("vote(2, 2, 2, 1), NIL by its lock", x.vote(2, 2, 2, 1), 0);
+        CHECK.due("vote(1, 2, 1, 1), locked in round 0", x.vote(1, 2, 1, 1), VALUE);
+    }
+
+    /**
      * A forgetful proposer whose value is valid since this very round proposes it with this round, which rule C
      * does not take, though many prevoted it: timer P ends in turn 10.
      */
@@ -73,6 +102,7 @@ public final class LockTest {
 
     public static void main(String[] args) {
         lockOfTheSameRoundGivesWay();
+        lockOfALaterRoundStands();
         proposalOfItsOwnRoundIsNotAnswered();
         CHECK.finish();
     }

@@ -22,7 +22,43 @@ public final class NewObjectTest {
         CHECK.due("vote(1, 0, 1, 0) of seed " + seed, x.vote(1, 0, 1, 0), Check.own(seed, 1, 1, 0));
     }
 
+    private static void ownValueIs(int seed, int value) {
+        RoundVotes x = new RoundVotes(4, seed);
+        x.turn(4);
+        CHECK.due("decided(0, 1, 0) of seed " + seed, x.decided(0, 1, 0), value);
+    }
+
+    /** The lowest 20 bits count: all of them 0, all of them 1, the highest of them, and the first above them. */
+    private static void edgesOfTheOwnValue() {
+        int mixedToNothing = 7_919 ^ 104_729;
+        ownValueIs(mixedToNothing, 2);
+        ownValueIs(~mixedToNothing, 2_097_152);
+        ownValueIs(mixedToNothing ^ 1 << 19, 1_048_578);
+        ownValueIs(mixedToNothing ^ 1 << 20, 2);
+        ownValueIs(mixedToNothing ^ 1 << 31, 2);
+        ownValueIs(mixedToNothing ^ 0xFFF00000, 2);
+    }
+
+    /** All weights 1, all asked calls as of nothing that has been. */
+    private static void nothingHasBeen(int n) {
+        RoundVotes x = new RoundVotes(n, 5);
+        int[] counts = {0, 0, 0, 0, 0, 0, n, n, 0};
+        for (int what = 0; what < counts.length; what++) {
+            CHECK.due("count(" + what + ") of " + n, x.count(what), counts[what]);
+        }
+        for (int height = 1; height <= 40; height++) {
+            CHECK.due("weightOf(-1, " + height + ")", x.weightOf(-1, height), n);
+            CHECK.due("unlike(" + height + ")", x.unlike(height), 0);
+            CHECK.due("decided(0, " + height + ", 0)", x.decided(0, height, 0), RoundVotes.NONE);
+        }
+        CHECK.due("evidence(-1, 0)", x.evidence(-1, 0), 0);
+        CHECK.due("against(0)", x.against(0), 0);
+    }
+
     public static void main(String[] args) {
+        edgesOfTheOwnValue();
+        nothingHasBeen(1);
+        nothingHasBeen(10);
         for (int n = 1; n <= 10; n++) {
             hasNodes(n, n);
         }

@@ -78,7 +78,58 @@ public final class WeightTest {
         CHECK.due("decided(1, 1, 3), 5 of 7", more.decided(1, 1, 3), 5);
     }
 
+    private static void firstAndLastWeight() {
+        RoundVotes x = new RoundVotes(3, 1);
+        CHECK.due("weight(0, 1000000)", x.weight(0, 1_000_000), 1);
+        CHECK.due("weightOf(0, 1)", x.weightOf(0, 1), 1_000_000);
+        CHECK.due("weight(0, 1000001)", x.weight(0, 1_000_001), RoundVotes.BAD);
+        CHECK.due("weightOf(0, 1)", x.weightOf(0, 1), 1_000_000);
+        CHECK.due("weight(0, 1)", x.weight(0, 1), 1);
+        CHECK.due("weightOf(0, 1)", x.weightOf(0, 1), 1);
+        CHECK.due("weight(0, 0)", x.weight(0, 0), RoundVotes.BAD);
+        CHECK.due("weightOf(-1, 1)", x.weightOf(-1, 1), 3);
+    }
+
+    /** One node that has come to a height is enough, though it is cut then and the others are behind it. */
+    private static void heightOfTheOneAhead() {
+        RoundVotes x = new RoundVotes(3, 7);
+        x.weight(0, 5);
+        x.weight(1, 3);
+        x.weight(2, 3);
+        for (int lost : new int[] {1, 3, 8, 9}) {
+            x.disturb(lost, 0, 0);
+        }
+        x.turn(2);
+        CHECK.due("count(5) in turn 2", x.count(5), 0);
+        CHECK.due("weight(2, 4), all in height 1", x.weight(2, 4), 2);
+        x.turn(1);
+        CHECK.due("node(0, 0) in turn 3", x.node(0, 0), 1);
+        CHECK.due("node(1, 0) in turn 3", x.node(1, 0), 2);
+        CHECK.due("weight(2, 6), node 1 in height 2", x.weight(2, 6), 3);
+        x.cut(1, 1);
+        CHECK.due("weight(2, 7), node 1 in height 2, cut", x.weight(2, 7), 3);
+        CHECK.due("weightOf(2, 1)", x.weightOf(2, 1), 3);
+        CHECK.due("weightOf(2, 2)", x.weightOf(2, 2), 4);
+        CHECK.due("weightOf(2, 3)", x.weightOf(2, 3), 7);
+        CHECK.due("weightOf(2, 40)", x.weightOf(2, 40), 7);
+    }
+
+    /** Told in height 1, it counts in height 2: node 0 is needed there, and was not in height 1. */
+    private static void countsFromThatHeightOn() {
+        RoundVotes x = new RoundVotes(4, 7);
+        x.turn(1);
+        x.behave(0, 1);
+        CHECK.due("weight(0, 100)", x.weight(0, 100), 2);
+        x.turn(30);
+        CHECK.due("decided(1, 1, 2)", x.decided(1, 1, 2), 14);
+        CHECK.due("decided(1, 1, 3)", x.decided(1, 1, 3), 3);
+        CHECK.due("decided(1, 2, 0)", x.decided(1, 2, 0), RoundVotes.NONE);
+    }
+
     public static void main(String[] args) {
+        firstAndLastWeight();
+        heightOfTheOneAhead();
+        countsFromThatHeightOn();
         wrongInputs();
         aheadOfTheFirstTurn();
         manyOfGreatWeights();
