@@ -132,6 +132,22 @@ public final class BehaveTest {
         CHECK.due("nil: decided(2, 1, 2)", x.decided(2, 1, 2), 14);
     }
 
+    /** Node 0 prevoted the value in turn 2; back in turn 4 it is NIL, but sends what it signed: node 1 had forgotten it. */
+    private static void nilSendsWhatItSigned() {
+        RoundVotes x = new RoundVotes(4, SEED);
+        x.behave(2, 1);
+        x.behave(3, 1);
+        x.turn(2);
+        x.behave(0, 5);
+        x.cut(0, 1);
+        x.cut(1, 2);
+        x.turn(4);
+        CHECK.due("nil: vote(1, 0, 0, 1) in turn 6", x.vote(1, 0, 0, 1), RoundVotes.NONE);
+        x.turn(1);
+        CHECK.due("nil: vote(1, 0, 0, 1) in turn 7", x.vote(1, 0, 0, 1), VALUE);
+        CHECK.due("nil: against(0)", x.against(0), 0);
+    }
+
     private static void nilProposesAsTold() {
         RoundVotes x = new RoundVotes(4, SEED);
         x.behave(1, 5);
@@ -149,6 +165,7 @@ public final class BehaveTest {
         bothSendsOneBehindTheOther();
         forgetsWhatItSigned();
         allNil();
+        nilSendsWhatItSigned();
         nilProposesAsTold();
         CHECK.finish();
     }

@@ -187,6 +187,31 @@ public final class CutTest {
     }
 
     /**
+     * Node 1 is in height 1, nodes 2 and 3 are in height 2; all come back in turn 7. Nodes 1 and 2 are proposers there:
+     * node 1 sends six copies, node 2 six behind it, of which the third is the proposal to node 3.
+     */
+    private static void comeBackByRisingNumbers() {
+        for (int lost = 0; lost < 2; lost++) {
+            RoundVotes x = new RoundVotes(4, SEED);
+            x.turn(3);
+            x.cut(1, 1);
+            x.turn(2);
+            for (int i = 1; i < 4; i++) {
+                x.cut(i, 1);
+            }
+            x.turn(1);
+            if (lost == 1) {
+                x.disturb(x.count(1) + 6 + 2, 0, 0);
+            }
+            x.turn(2);
+            CHECK.due("node(1, 0) in turn 8", x.node(1, 0), 1);
+            CHECK.due("node(3, 0) in turn 8", x.node(3, 0), 2);
+            int due = lost == 1 ? RoundVotes.NONE : Check.own(SEED, 2, 2, 0);
+            CHECK.due("vote(3, 0, 2, 0) in turn 8", x.vote(3, 0, 2, 0), due);
+        }
+    }
+
+    /**
      * Node 0 is back in turn 5, in height 1, and keeps what node 2 sends in height 2; cut again it forgets that. The
      * others precommit NIL in turn 6, which comes when it is back again.
      */
@@ -210,6 +235,7 @@ public final class CutTest {
     public static void main(String[] args) {
         proposalAgainAsItWasSigned();
         whatItSignedInAnEarlierRound();
+        comeBackByRisingNumbers();
         forgetsWhatItKeptForTheNextHeight();
         cutForOneTurn();
         lastTurnOfFifty();

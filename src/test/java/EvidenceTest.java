@@ -209,8 +209,25 @@ public final class EvidenceTest {
         evidenceIs(x, 0, 0, 1, 1, 1, 1, 9);
     }
 
+    /** Node 0 sends two of each in rounds 0 and 1: that is told of each round, though kinds and height are the same. */
+    private static void evidenceOfEachRound() {
+        RoundVotes x = new RoundVotes(4, SEED);
+        for (int i = 0; i < 4; i++) {
+            x.behave(i, i == 0 ? 3 : 5);
+        }
+        x.turn(6);
+        CHECK.due("evidence(-1, 0) in turn 6", x.evidence(-1, 0), 2);
+        evidenceIs(x, 0, 0, 1, 0, 1, 1, 3);
+        evidenceIs(x, 1, 0, 1, 0, 2, 1, 4);
+        x.turn(3);
+        CHECK.due("node(0, 1) in turn 9", x.node(0, 1), 1);
+        CHECK.due("evidence(-1, 0) in turn 9", x.evidence(-1, 0), 3);
+        evidenceIs(x, 2, 0, 1, 1, 1, 1, 9);
+    }
+
     public static void main(String[] args) {
         evidenceOfALaterRound();
+        evidenceOfEachRound();
         theLastOfTwoHundred();
         againstCountsEachOnce();
         againstCountsEachKindAndRound();

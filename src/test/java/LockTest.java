@@ -82,6 +82,32 @@ public final class LockTest {
     }
 
     /**
+     * All lock the value in round 0, and nodes 0 to 2 in round 1 again, of which node 3 gets too few prevotes (copies 35
+     * and 38 are lost); each time two precommit NIL. In round 2 node 3 proposes the value as valid since round 0.
+     */
+    private static void lockOfTheSameValueIsNoHindrance() {
+        RoundVotes x = new RoundVotes(4, SEED);
+        x.disturb(35, LOST, 0);
+        x.disturb(38, LOST, 0);
+        x.turn(2);
+        x.behave(0, 5);
+        x.behave(3, 5);
+        x.turn(2);
+        x.behave(0, 0);
+        x.behave(3, 0);
+        x.turn(4);
+        x.behave(0, 5);
+        x.behave(2, 5);
+        x.turn(7);
+        CHECK.due("node(1, 1) in turn 15", x.node(1, 1), 2);
+        CHECK.due("node(1, 3) in turn 15", x.node(1, 3), VALUE);
+        CHECK.due("node(1, 4) in turn 15", x.node(1, 4), 1);
+        CHECK.due("vote(1, 2, 3, 0) in turn 15", x.vote(1, 2, 3, 0), VALUE);
+        CHECK.due("vote(1, 2, 3, 3) in turn 15", x.vote(1, 2, 3, 3), 0);
+        CHECK.due("vote(1, 2, 1, 1) in turn 15", x.vote(1, 2, 1, 1), VALUE);
+    }
+
+    /**
      * A forgetful proposer whose value is valid since this very round proposes it with this round, which rule C
      * does not take, though many prevoted it: timer P ends in turn 10.
      */
@@ -103,6 +129,7 @@ public final class LockTest {
     public static void main(String[] args) {
         lockOfTheSameRoundGivesWay();
         lockOfALaterRoundStands();
+        lockOfTheSameValueIsNoHindrance();
         proposalOfItsOwnRoundIsNotAnswered();
         CHECK.finish();
     }

@@ -218,6 +218,34 @@ public final class RoundEdgeTest {
         CHECK.due("node(0, 0) in turn 22", x.node(0, 0), 3);
     }
 
+    /**
+     * The same with node 3 left in height 1, the proposer of height 2, round 1: it keeps precommits of round 0 and, as it
+     * does not propose, prevotes for NIL of round 1. It decides ahead of going to round 1, so it proposes nothing there:
+     * all it sends in turn 22 are the proposal and the prevote of height 3.
+     */
+    private static void ruleAAheadOfB() {
+        RoundVotes x = new RoundVotes(5, SEED);
+        x.disturb(2, LATE, 20);
+        for (int k : new int[] {60, 61, 62, 71}) {
+            x.disturb(k, LOST, 0);
+        }
+        x.turn(5);
+        x.behave(4, BOTH);
+        x.turn(2);
+        x.behave(4, 0);
+        x.turn(14);
+        CHECK.due("node(3, 0) in turn 21", x.node(3, 0), 1);
+        CHECK.due("node(0, 0) in turn 21", x.node(0, 0), 2);
+        CHECK.due("node(0, 1) in turn 21", x.node(0, 1), 1);
+        int sent = x.node(3, 12);
+        x.turn(1);
+        CHECK.due("decided(3, 2, 0) in turn 22", x.decided(3, 2, 0), Check.own(SEED, 2, 2, 0));
+        CHECK.due("decided(3, 2, 1) in turn 22", x.decided(3, 2, 1), 0);
+        CHECK.due("decided(3, 2, 2) in turn 22", x.decided(3, 2, 2), 23);
+        CHECK.due("node(3, 0) in turn 22", x.node(3, 0), 3);
+        CHECK.due("node(3, 12) in turn 22", x.node(3, 12), sent + 8);
+    }
+
     /** In round 1 a value is proposed as valid since round 0, the last that rule C takes there. */
     private static void ruleCTakesTheRoundBefore() {
         RoundVotes x = new RoundVotes(4, SEED);
@@ -243,6 +271,7 @@ public final class RoundEdgeTest {
         joinsTheLastRound();
         ruleBTakesTheGreatest();
         ruleATakesTheLeast();
+        ruleAAheadOfB();
         ruleCTakesTheRoundBefore();
         CHECK.finish();
     }

@@ -156,6 +156,90 @@ public final class TurnTest {
         CHECK.due("node(3, 1) in turn 8", x.node(3, 1), 1);
     }
 
+    /** A precommit alone is enough, too: what all others send to node 3 ahead of it in round 1 is lost. */
+    private static void joinsByAPrecommit() {
+        RoundVotes x = nodeThreeLeftInRoundZero(5);
+        for (int lost : new int[] {2, 5, 8, 11}) {
+            x.disturb(x.count(1) + lost, 0, 0);
+        }
+        x.turn(3);
+        CHECK.due("node(2, 2) in turn 9", x.node(2, 2), 2);
+        CHECK.due("node(3, 1) in turn 9", x.node(3, 1), 0);
+        x.turn(1);
+        CHECK.due("vote(3, 1, 2, 0) in turn 10", x.vote(3, 1, 2, 0), RoundVotes.NONE);
+        CHECK.due("vote(3, 1, 2, 1) in turn 10", x.vote(3, 1, 2, 1), RoundVotes.NONE);
+        CHECK.due("vote(3, 1, 2, 2) in turn 10", x.vote(3, 1, 2, 2), 0);
+        CHECK.due("node(3, 1) in turn 10", x.node(3, 1), 1);
+    }
+
+    /** Nodes 1 to 3 prevote NIL, and node 0 does not get the proposal: rule E waits for its own prevote, by timer P. */
+    private static void notInProposeByPrevotesForNil() {
+        RoundVotes x = new RoundVotes(4, SEED);
+        for (int i = 1; i < 4; i++) {
+            x.behave(i, 5);
+        }
+        x.disturb(0, 0, 0);
+        x.turn(4);
+        CHECK.due("vote(0, 0, 1, 1) in turn 4", x.vote(0, 0, 1, 1), 0);
+        CHECK.due("vote(0, 0, 2, 1) in turn 4", x.vote(0, 0, 2, 1), 0);
+        CHECK.due("vote(0, 0, 3, 1) in turn 4", x.vote(0, 0, 3, 1), 0);
+        CHECK.due("node(0, 2) in turn 4", x.node(0, 2), 0);
+        x.turn(1);
+        CHECK.due("node(0, 2) in turn 5", x.node(0, 2), 2);
+        CHECK.due("vote(0, 0, 0, 1) in turn 5", x.vote(0, 0, 0, 1), 0);
+        CHECK.due("vote(0, 0, 0, 2) in turn 5", x.vote(0, 0, 0, 2), 0);
+        CHECK.due("node(0, 10) in turn 5, E goes ahead of F", x.node(0, 10), 0);
+    }
+
+    /** V is set in turn 3; the late prevote of node 3 (copy 13) makes node 1 precommit in turn 4, and V ends in vain. */
+    private static void timerVInPrecommit() {
+        RoundVotes x = new RoundVotes(4, SEED);
+        x.behave(0, 5);
+        x.disturb(13, 2, 1);
+        x.turn(2);
+        x.behave(2, 5);
+        x.behave(3, 5);
+        x.turn(3);
+        CHECK.due("node(1, 2) in turn 5", x.node(1, 2), 2);
+        CHECK.due("node(1, 3) in turn 5", x.node(1, 3), VALUE);
+        CHECK.due("node(1, 10) in turn 5", x.node(1, 10), 6);
+        CHECK.due("node(1, 12) in turn 5", x.node(1, 12), 9);
+        x.turn(1);
+        CHECK.due("node(1, 10) in turn 6", x.node(1, 10), 0);
+        CHECK.due("node(1, 12) in turn 6", x.node(1, 12), 9);
+        CHECK.due("vote(1, 0, 1, 2) in turn 6", x.vote(1, 0, 1, 2), VALUE);
+    }
+
+    /** Node 0, back in turn 3, gets the precommits in turn 4: both P and C end in turn 7, P ahead of C. */
+    private static void timerPAheadOfC() {
+        RoundVotes x = new RoundVotes(4, SEED);
+        for (int i = 0; i < 4; i++) {
+            x.behave(i, 5);
+        }
+        x.turn(1);
+        x.cut(0, 1);
+        x.turn(5);
+        CHECK.due("node(0, 9) in turn 6", x.node(0, 9), 7);
+        CHECK.due("node(0, 11) in turn 6", x.node(0, 11), 7);
+        CHECK.due("vote(0, 0, 0, 1) in turn 6", x.vote(0, 0, 0, 1), RoundVotes.NONE);
+        x.turn(1);
+        CHECK.due("vote(0, 0, 0, 1) in turn 7", x.vote(0, 0, 0, 1), 0);
+        CHECK.due("node(0, 1) in turn 7", x.node(0, 1), 1);
+    }
+
+    /** In turn 5 timer P makes nodes 0, 2 and 3 prevote, one behind the other: copy 0 is node 0's. */
+    private static void timersNodeByNode() {
+        RoundVotes x = new RoundVotes(4, SEED);
+        x.behave(1, 1);
+        x.disturb(0, 0, 0);
+        x.disturb(8, 0, 0);
+        x.turn(6);
+        CHECK.due("vote(1, 0, 0, 1), copy 0 lost", x.vote(1, 0, 0, 1), RoundVotes.NONE);
+        CHECK.due("vote(1, 0, 2, 1)", x.vote(1, 0, 2, 1), 0);
+        CHECK.due("vote(1, 0, 3, 1)", x.vote(1, 0, 3, 1), 0);
+        CHECK.due("vote(2, 0, 3, 1), copy 8 lost", x.vote(2, 0, 3, 1), RoundVotes.NONE);
+    }
+
     /** The late proposal comes in turn 5, in which timer P would end in a prevote for NIL. */
     private static void copiesComeAheadOfTimers() {
         RoundVotes x = new RoundVotes(4, SEED);
@@ -178,6 +262,11 @@ public final class TurnTest {
         validIsProposedAgain();
         joinsALaterRound();
         joinsByAProposal();
+        joinsByAPrecommit();
+        notInProposeByPrevotesForNil();
+        timerVInPrecommit();
+        timerPAheadOfC();
+        timersNodeByNode();
         copiesComeAheadOfTimers();
         CHECK.finish();
     }
