@@ -156,6 +156,30 @@ public final class BehaveTest {
         CHECK.due("nil: vote(0, 0, 1, 1)", x.vote(0, 0, 1, 1), 0);
     }
 
+    /**
+     * Node 0 signed a prevote as told; forgetful by now, it does not ask for that as P ends in turn 9, and sends another
+     * one. What it signed as told was kept, and is the first that counts for it.
+     */
+    private static void forgetfulAsksForNothingSigned() {
+        RoundVotes x = new RoundVotes(4, SEED);
+        x.behave(2, 1);
+        x.behave(3, 1);
+        x.turn(2);
+        x.cut(0, 2);
+        x.behave(0, 4);
+        x.turn(6);
+        CHECK.due("forgetful by now: node(0, 9) in turn 8", x.node(0, 9), 9);
+        CHECK.due("forgetful by now: vote(0, 0, 0, 1) in turn 8", x.vote(0, 0, 0, 1), VALUE);
+        CHECK.due("forgetful by now: node(0, 12) in turn 8", x.node(0, 12), 3);
+        x.turn(2);
+        CHECK.due("forgetful by now: node(0, 12) in turn 10", x.node(0, 12), 6);
+        CHECK.due("forgetful by now: vote(0, 0, 0, 1) in turn 10", x.vote(0, 0, 0, 1), VALUE);
+        CHECK.due("forgetful by now: vote(1, 0, 0, 1) in turn 10", x.vote(1, 0, 0, 1), VALUE);
+        CHECK.due("forgetful by now: against(0)", x.against(0), 1);
+        CHECK.due("forgetful by now: evidence(-1, 0)", x.evidence(-1, 0), 1);
+        CHECK.due("forgetful by now: evidence(0, 4)", x.evidence(0, 4), 1);
+    }
+
     public static void main(String[] args) {
         answers();
         silent();
@@ -167,6 +191,7 @@ public final class BehaveTest {
         allNil();
         nilSendsWhatItSigned();
         nilProposesAsTold();
+        forgetfulAsksForNothingSigned();
         CHECK.finish();
     }
 }

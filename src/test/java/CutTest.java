@@ -232,6 +232,42 @@ public final class CutTest {
         CHECK.due("vote(0, 0, 2, 2), came in turn 7", x.vote(0, 0, 2, 2), 0);
     }
 
+    /**
+     * All but node 1 are cut when the precommits come; back, they have no proposal, prevote what they signed and, as V
+     * ends in turn 13, precommit: not NIL, but what they signed.
+     */
+    private static void precommitAgainAsItWasSigned() {
+        RoundVotes x = new RoundVotes(4, SEED);
+        x.turn(3);
+        x.cut(0, 1);
+        x.cut(2, 1);
+        x.cut(3, 1);
+        x.turn(9);
+        CHECK.due("node(0, 10) in turn 12", x.node(0, 10), 13);
+        CHECK.due("node(0, 12) in turn 12", x.node(0, 12), 9);
+        CHECK.due("vote(0, 0, 2, 2) in turn 12", x.vote(0, 0, 2, 2), RoundVotes.NONE);
+        x.turn(1);
+        CHECK.due("node(0, 2) in turn 13", x.node(0, 2), 2);
+        CHECK.due("node(0, 12) in turn 13, sent again", x.node(0, 12), 12);
+        x.turn(1);
+        CHECK.due("vote(0, 0, 2, 2) in turn 14", x.vote(0, 0, 2, 2), VALUE);
+        CHECK.due("vote(2, 0, 0, 2) in turn 14", x.vote(2, 0, 0, 2), VALUE);
+        CHECK.due("against(0)", x.against(0), 0);
+        CHECK.due("evidence(-1, 0)", x.evidence(-1, 0), 0);
+    }
+
+    /** A silent node signs what counts for it, though it sends nothing. */
+    private static void silentNodeKeepsWhatItSigned() {
+        RoundVotes x = new RoundVotes(4, SEED);
+        x.behave(0, 1);
+        x.turn(2);
+        CHECK.due("silent: vote(0, 0, 0, 1) in turn 2", x.vote(0, 0, 0, 1), VALUE);
+        x.cut(0, 1);
+        x.turn(2);
+        CHECK.due("silent: vote(0, 0, 1, 0) in turn 4, forgotten", x.vote(0, 0, 1, 0), RoundVotes.NONE);
+        CHECK.due("silent: vote(0, 0, 0, 1) in turn 4", x.vote(0, 0, 0, 1), VALUE);
+    }
+
     public static void main(String[] args) {
         proposalAgainAsItWasSigned();
         whatItSignedInAnEarlierRound();
@@ -245,6 +281,8 @@ public final class CutTest {
         sendsItsProposalAgain();
         doesNothingWhenCut();
         comesBackBehindTheLastHeight();
+        precommitAgainAsItWasSigned();
+        silentNodeKeepsWhatItSigned();
         CHECK.finish();
     }
 }

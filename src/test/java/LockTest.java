@@ -126,11 +126,32 @@ public final class LockTest {
         CHECK.due("vote(1, 0, 1, 2), by rule D", x.vote(1, 0, 1, 2), VALUE);
     }
 
+    /**
+     * Node 2 gets node 3's prevote, that makes three for the value, in turn 7, when V has made it precommit NIL: the
+     * value is valid for it, but not locked. In round 1 it proposes what is valid, with the round since when it is.
+     */
+    private static void validIsProposedThoughNotLocked() {
+        RoundVotes x = new RoundVotes(4, SEED);
+        x.turn(1);
+        x.behave(0, 5);
+        x.cut(3, 1);
+        x.cut(1, 3);
+        x.turn(8);
+        CHECK.due("node(2, 3) in turn 9", x.node(2, 3), 0);
+        CHECK.due("node(2, 5) in turn 9", x.node(2, 5), VALUE);
+        CHECK.due("node(2, 6) in turn 9", x.node(2, 6), 0);
+        x.turn(1);
+        CHECK.due("node(2, 1) in turn 10", x.node(2, 1), 1);
+        CHECK.due("vote(2, 1, 2, 0) in turn 10", x.vote(2, 1, 2, 0), VALUE);
+        CHECK.due("vote(2, 1, 2, 3) in turn 10", x.vote(2, 1, 2, 3), 0);
+    }
+
     public static void main(String[] args) {
         lockOfTheSameRoundGivesWay();
         lockOfALaterRoundStands();
         lockOfTheSameValueIsNoHindrance();
         proposalOfItsOwnRoundIsNotAnswered();
+        validIsProposedThoughNotLocked();
         CHECK.finish();
     }
 }

@@ -179,6 +179,25 @@ public final class ManyAndSomeTest {
         CHECK.due("B, 4 of 11: node(3, 1)", more.node(3, 1), 1);
     }
 
+    /**
+     * Node 3 has three prevotes of round 0, but two for the value (copy 8, node 0's to it, is lost, and node 2 votes
+     * NIL): that is not MANY for the value that node 2 proposes again in round 1, though it is for the others.
+     */
+    private static void rulePrevotesOfAnEarlierRoundForTheValue() {
+        RoundVotes x = weighing(1, 1, 1, 1);
+        x.behave(2, ALL_NIL);
+        x.disturb(8, 0, 0);
+        x.turn(8);
+        CHECK.due("C: vote(3, 1, 2, 0) in turn 8", x.vote(3, 1, 2, 0), VALUE);
+        CHECK.due("C: vote(3, 1, 2, 3) in turn 8", x.vote(3, 1, 2, 3), 0);
+        CHECK.due("C: vote(3, 0, 1, 1)", x.vote(3, 0, 1, 1), VALUE);
+        CHECK.due("C: vote(3, 0, 2, 1)", x.vote(3, 0, 2, 1), 0);
+        CHECK.due("C: vote(3, 0, 3, 1)", x.vote(3, 0, 3, 1), VALUE);
+        CHECK.due("C, torn: node(3, 2) in turn 8", x.node(3, 2), 0);
+        CHECK.due("C, torn: vote(3, 1, 3, 1) in turn 8", x.vote(3, 1, 3, 1), RoundVotes.NONE);
+        CHECK.due("C: vote(1, 1, 1, 1) in turn 8", x.vote(1, 1, 1, 1), VALUE);
+    }
+
     public static void main(String[] args) {
         rulePrecommitsAlike();
         rulePrevotesOfAnEarlierRound();
@@ -187,6 +206,7 @@ public final class ManyAndSomeTest {
         rulePrevotesWhateverFor();
         rulePrecommitsWhateverFor();
         ruleMessagesOfALaterRound();
+        rulePrevotesOfAnEarlierRoundForTheValue();
         CHECK.finish();
     }
 }

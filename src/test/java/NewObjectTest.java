@@ -55,6 +55,34 @@ public final class NewObjectTest {
         CHECK.due("against(0)", x.against(0), 0);
     }
 
+    private static void someCalls(RoundVotes x, int k) {
+        x.weight(k % 4, 1 + k % 3);
+        x.behave(k % 4, k % 7 == 0 ? k % 6 : 0);
+        x.disturb(3 * k, k % 3, 1 + k % 20);
+        x.sides(k % 16, 1 + k % 2);
+        x.turn(1 + k % 3);
+        x.cut(k % 4, 1 + k % 5);
+        x.catchUp((k + 1) % 4);
+    }
+
+    /** Nothing is drawn, and objects have nothing in common: the same calls give the same answers, one behind or amid the other. */
+    private static void sameCallsSameAnswers() {
+        RoundVotes first = new RoundVotes(4, 5);
+        for (int k = 0; k < 60; k++) {
+            someCalls(first, k);
+        }
+        Snapshot after = new Snapshot(first);
+        RoundVotes second = new RoundVotes(4, 5);
+        RoundVotes another = new RoundVotes(7, 6);
+        for (int k = 0; k < 60; k++) {
+            someCalls(second, k);
+            someCalls(another, k + 1);
+        }
+        CHECK.due("the same calls on another object, with one amid them", after.isOf(second) ? 1 : 0, 1);
+        CHECK.due("it is another one", after.isOf(another) ? 1 : 0, 0);
+        CHECK.due("the first one is as it was", after.isOf(first) ? 1 : 0, 1);
+    }
+
     public static void main(String[] args) {
         edgesOfTheOwnValue();
         nothingHasBeen(1);
@@ -72,6 +100,7 @@ public final class NewObjectTest {
         usesSeed(-5);
         usesSeed(Integer.MIN_VALUE);
         usesSeed(Integer.MAX_VALUE);
+        sameCallsSameAnswers();
         CHECK.due("BAD", RoundVotes.BAD, -1);
         CHECK.due("NONE", RoundVotes.NONE, -2);
         CHECK.due("FULL", RoundVotes.FULL, -3);

@@ -261,6 +261,63 @@ public final class RoundEdgeTest {
         CHECK.due("vote(0, 1, 0, 1)", x.vote(0, 1, 0, 1), VALUE);
     }
 
+    /**
+     * Node 3 is apart but for turns 7 and 27, in which node 2 begins round 1 and node 0 round 3, each alone: of two nodes
+     * it has a message of a later round, but of one in each. Once node 1's of round 3 comes, in turn 29, it goes there.
+     */
+    private static void ruleBAsksEachRoundForItself() {
+        RoundVotes x = fourNil();
+        x.sides(8, 6);
+        x.turn(7);
+        x.sides(8, 19);
+        x.turn(20);
+        CHECK.due("node(0, 1) in turn 27", x.node(0, 1), 3);
+        x.turn(1);
+        CHECK.due("vote(3, 1, 2, 1) in turn 28", x.vote(3, 1, 2, 1), 0);
+        CHECK.due("vote(3, 3, 0, 1) in turn 28", x.vote(3, 3, 0, 1), 0);
+        CHECK.due("node(3, 1) in turn 28", x.node(3, 1), 0);
+        x.turn(1);
+        CHECK.due("vote(3, 3, 1, 1) in turn 29", x.vote(3, 3, 1, 1), 0);
+        CHECK.due("node(3, 1) in turn 29", x.node(3, 1), 3);
+    }
+
+    /**
+     * Node 4 of five does not get the proposal of height 1 (copy 3), and keeps what comes of height 2: votes for NIL in
+     * round 0; in round 1 a proposal and precommits of the others for it (node 0 precommits NIL, too, which is what nodes
+     * 1 to 3 have: copies 100 to 102 are lost, and copy 96 to node 0); in round 2, in which it is the proposer, prevotes.
+     * It takes height 1 from them and decides height 2 as it begins round 0, so it proposes nothing in round 2.
+     */
+    private static void ruleAOfARoundAboveItsOwn() {
+        RoundVotes x = new RoundVotes(5, SEED);
+        x.disturb(3, LOST, 0);
+        x.turn(3);
+        for (int i = 0; i < 4; i++) {
+            x.behave(i, ALL_NIL);
+        }
+        x.turn(6);
+        for (int i = 0; i < 4; i++) {
+            x.behave(i, 0);
+        }
+        x.turn(2);
+        x.behave(0, BOTH);
+        for (int k : new int[] {96, 100, 101, 102}) {
+            x.disturb(k, LOST, 0);
+        }
+        x.turn(1);
+        x.behave(0, 0);
+        x.turn(12);
+        CHECK.due("node(1, 0) in turn 24", x.node(1, 0), 2);
+        CHECK.due("node(1, 1) in turn 24", x.node(1, 1), 2);
+        CHECK.due("node(4, 0) in turn 24", x.node(4, 0), 1);
+        int sent = x.node(4, 12);
+        CHECK.due("catchUp(4)", x.catchUp(4), 1);
+        CHECK.due("decided(4, 2, 0)", x.decided(4, 2, 0), Check.own(SEED, 3, 2, 1));
+        CHECK.due("decided(4, 2, 1)", x.decided(4, 2, 1), 1);
+        CHECK.due("decided(4, 2, 2)", x.decided(4, 2, 2), 15);
+        CHECK.due("node(4, 0)", x.node(4, 0), 3);
+        CHECK.due("node(4, 12), nothing was sent", x.node(4, 12), sent);
+    }
+
     public static void main(String[] args) {
         lastRoundBegins();
         roundThirtyDoesNotBegin();
@@ -273,6 +330,8 @@ public final class RoundEdgeTest {
         ruleATakesTheLeast();
         ruleAAheadOfB();
         ruleCTakesTheRoundBefore();
+        ruleBAsksEachRoundForItself();
+        ruleAOfARoundAboveItsOwn();
         CHECK.finish();
     }
 }

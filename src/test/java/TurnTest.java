@@ -253,6 +253,45 @@ public final class TurnTest {
         CHECK.due("node(0, 9) in turn 5", x.node(0, 9), 0);
     }
 
+    /** Node 0, back in turn 3, prevotes NIL by P in turn 7 and sets V; in the same turn C ends: round 1 has timer P alone. */
+    private static void beginLeavesNoTimer() {
+        RoundVotes x = new RoundVotes(4, SEED);
+        x.turn(1);
+        x.cut(0, 1);
+        x.turn(5);
+        CHECK.due("node(0, 9) in turn 6", x.node(0, 9), 7);
+        CHECK.due("node(0, 10) in turn 6", x.node(0, 10), 0);
+        CHECK.due("node(0, 11) in turn 6", x.node(0, 11), 7);
+        x.turn(1);
+        CHECK.due("vote(0, 0, 0, 1) in turn 7", x.vote(0, 0, 0, 1), 0);
+        CHECK.due("node(0, 1) in turn 7", x.node(0, 1), 1);
+        CHECK.due("node(0, 9) in turn 7", x.node(0, 9), 12);
+        CHECK.due("node(0, 10) in turn 7", x.node(0, 10), 0);
+        CHECK.due("node(0, 11) in turn 7", x.node(0, 11), 0);
+    }
+
+    /**
+     * All vote NIL; node 3 is back in turn 3, so its timer P ends in turn 7, as timer C of all does. Node 2 proposes
+     * in round 1 ahead of node 3's prevote in round 0: C of one node goes ahead of P of the next.
+     */
+    private static void timersOfOneNodeAheadOfTheNext() {
+        RoundVotes x = new RoundVotes(4, SEED);
+        for (int i = 0; i < 4; i++) {
+            x.behave(i, 5);
+        }
+        x.turn(1);
+        x.cut(3, 1);
+        x.turn(5);
+        int next = x.count(1);
+        CHECK.due("node(2, 11) in turn 6", x.node(2, 11), 7);
+        CHECK.due("node(3, 9) in turn 6", x.node(3, 9), 7);
+        x.disturb(next, 0, 0);
+        x.turn(2);
+        CHECK.due("vote(0, 1, 2, 0), the first copy of turn 7", x.vote(0, 1, 2, 0), RoundVotes.NONE);
+        CHECK.due("vote(1, 1, 2, 0)", x.vote(1, 1, 2, 0), Check.own(SEED, 2, 1, 1));
+        CHECK.due("vote(0, 0, 3, 1), a later copy", x.vote(0, 0, 3, 1), 0);
+    }
+
     public static void main(String[] args) {
         answers();
         ordinaryHeight();
@@ -268,6 +307,8 @@ public final class TurnTest {
         timerPAheadOfC();
         timersNodeByNode();
         copiesComeAheadOfTimers();
+        beginLeavesNoTimer();
+        timersOfOneNodeAheadOfTheNext();
         CHECK.finish();
     }
 }

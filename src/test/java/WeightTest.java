@@ -126,6 +126,34 @@ public final class WeightTest {
         CHECK.due("decided(1, 2, 0)", x.decided(1, 2, 0), RoundVotes.NONE);
     }
 
+    /**
+     * In height 2 all vote NIL, and node 0 is cut through round 0. In turn 11 it hears node 3 of round 1, in turn 12 the
+     * others, too. Node 3 is SOME if it weighs 2 of 5 in height 2, though it is not in height 1.
+     */
+    private static void someOfTheHeight(int weightOfThree, int roundInTurnEleven) {
+        RoundVotes x = new RoundVotes(4, 7);
+        x.turn(1);
+        CHECK.due("weight(3, " + weightOfThree + ")", x.weight(3, weightOfThree), 2);
+        x.turn(2);
+        for (int i = 0; i < 4; i++) {
+            x.behave(i, 5);
+        }
+        x.turn(1);
+        x.cut(0, 5);
+        x.turn(7);
+        CHECK.due("node(0, 0) in turn 11", x.node(0, 0), 2);
+        CHECK.due("vote(0, 1, 3, 1) in turn 11", x.vote(0, 1, 3, 1), 0);
+        CHECK.due("vote(0, 1, 1, 1) in turn 11", x.vote(0, 1, 1, 1), RoundVotes.NONE);
+        CHECK.due("node(0, 1) in turn 11, of weight " + weightOfThree, x.node(0, 1), roundInTurnEleven);
+        x.turn(1);
+        CHECK.due("node(0, 1) in turn 12", x.node(0, 1), 1);
+    }
+
+    private static void someIsOfTheHeight() {
+        someOfTheHeight(2, 1);
+        someOfTheHeight(1, 0);
+    }
+
     public static void main(String[] args) {
         firstAndLastWeight();
         heightOfTheOneAhead();
@@ -136,6 +164,7 @@ public final class WeightTest {
         whileTurnsGo();
         behindTheLastHeight();
         edgeOfMany();
+        someIsOfTheHeight();
         CHECK.finish();
     }
 }
