@@ -80,6 +80,7 @@ public final class CutTest {
         x.turn(4);
         CHECK.due("node(3, 2) in turn 6", x.node(3, 2), 0);
         CHECK.due("node(3, 12) in turn 6", x.node(3, 12), 0);
+        CHECK.due("node(3, 9) in turn 6, as it was set", x.node(3, 9), 5);
         x.turn(1);
         CHECK.due("node(3, 9) in turn 7", x.node(3, 9), 11);
         x.turn(4);
