@@ -33,7 +33,7 @@ public final class LongRunsTest {
 
         Manner(int weight, int behave, int disturb, int sides, int cut, int catchUp, int mostTurns) {
             this.shares = new int[] {weight, behave, disturb, sides, cut, catchUp};
-            this.mostTurns = Math.max(1, mostTurns);
+            this.mostTurns = mostTurns;
         }
     }
 

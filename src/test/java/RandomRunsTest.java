@@ -1,6 +1,10 @@
 import java.util.Random;
 
-/** Random runs of calls on RoundVotes and on the plain model, whose answers must be alike. */
+/**
+ * Random runs of calls on RoundVotes and on the plain model, whose answers must be alike. All that can be asked is asked
+ * behind each call: far more than the 512 calls that are promised, so that what differs shows at once; LongRunsTest keeps
+ * to these.
+ */
 public final class RandomRunsTest {
     private static final int RUNS = 500;
     private static final int CALLS = 512;
