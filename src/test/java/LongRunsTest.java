@@ -9,7 +9,7 @@ public final class LongRunsTest {
     private static final int CALLS = 512;
     /** These last calls of a run only ask. */
     private static final int ASKING = 100;
-    private static final int RUNS_OF_EACH = 40;
+    private static final int RUNS_OF_EACH = 60;
     private static final int FORGETFUL = 4, ALL_NIL = 5, BOTH = 3;
     private static final int LOST = 0, DOUBLED = 1, LATE = 2;
 
@@ -57,10 +57,10 @@ public final class LongRunsTest {
 
     private int nodes() {
         if (manner == Manner.TORN) {
-            return run % 5 == 4 ? 4 : 3;
+            return run % 6 >= 4 ? 4 : 3;
         }
         if (manner == Manner.LEFT_BEHIND) {
-            return 5;
+            return run % 4 == 3 ? 4 : 5;
         }
         return run % 3 == 0 ? 4 : mostly(1, 10);
     }
@@ -291,7 +291,7 @@ public final class LongRunsTest {
 
     /** Beginnings that chance does not bring about, as they need a forgetful node and just these copies lost. */
     private void tear() {
-        switch (run % 5) {
+        switch (run % 6) {
             case 0 -> {
                 weigh(5, 3, 3);
                 loseAll(1, 3, 8, 9);
@@ -314,7 +314,8 @@ public final class LongRunsTest {
                 weigh(5, 3, 3);
                 twoLocksOfOneRound();
             }
-            default -> proposalOfItsOwnRound();
+            case 4 -> proposalOfItsOwnRound();
+            default -> sameValueLockedLater();
         }
     }
 
@@ -354,7 +355,7 @@ public final class LongRunsTest {
 
     /** A node that is left in height 1 keeps precommits and messages of several rounds of height 2. */
     private void leaveBehind() {
-        switch (run % 3) {
+        switch (run % 4) {
             case 0 -> {
                 tellDisturbance(0, LATE, 20);
                 loseAll(61, 62, 63, 71);
@@ -365,7 +366,8 @@ public final class LongRunsTest {
                 loseAll(60, 61, 62, 71);
                 tellTwoPrecommitsOfFour();
             }
-            default -> decidedInALaterRound();
+            case 2 -> decidedInALaterRound();
+            default -> threeRoundsAhead();
         }
     }
 
@@ -393,6 +395,31 @@ public final class LongRunsTest {
         tellBehaviour(0, 0);
         turn(12);
         catchUp(4);
+    }
+
+    private void threeRoundsAhead() {
+        tellWeight(0, 2);
+        loseAll(2);
+        turn(3);
+        for (int i = 0; i < 3; i++) {
+            tellBehaviour(i, ALL_NIL);
+        }
+        turn(20);
+        catchUp(3);
+    }
+
+    private void sameValueLockedLater() {
+        loseAll(35, 38);
+        turn(2);
+        tellBehaviour(0, ALL_NIL);
+        tellBehaviour(3, ALL_NIL);
+        turn(2);
+        tellBehaviour(0, 0);
+        tellBehaviour(3, 0);
+        turn(4);
+        tellBehaviour(0, ALL_NIL);
+        tellBehaviour(2, ALL_NIL);
+        turn(7);
     }
 
     private void proposalOfItsOwnRound() {
